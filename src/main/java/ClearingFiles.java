@@ -16,6 +16,7 @@ public final class ClearingFiles {
     private static final int MOST_POSTED_AT_ONCE = 40;
     private static final int GREATEST_FIRST_BALANCE = 1000000;
 
+    private static final int[] WEIGHTS = {3, 7, 1};
     private static final int ROUTING_DIGITS = 4;
     private static final int GREATEST_ROUTING = 9999;
     private static final int ACCOUNT_DIGITS = 6;
@@ -262,21 +263,10 @@ public final class ClearingFiles {
         int rest = number;
         int sum = 0;
         for (int place = digits - 1; place >= 0; place--) {
-            sum += rest % 10 * weightAt(place);
+            sum += rest % 10 * WEIGHTS[place % 3];
             rest /= 10;
         }
         return sum % 10 == 0;
-    }
-
-    private static int weightAt(int place) {
-        switch (place % 3) {
-            case 0:
-                return 3;
-            case 1:
-                return 7;
-            default:
-                return 1;
-        }
     }
 
     private Bank bankAt(int number) {
@@ -645,8 +635,6 @@ public final class ClearingFiles {
             totals.clear();
             lastTrace = -1;
             tracesGrow = true;
-            controlHolds = false;
-            reason = 0;
         }
 
         void add(Entry entry) {

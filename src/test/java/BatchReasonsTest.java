@@ -53,6 +53,19 @@ final class BatchReasonsTest {
         Check.due("8 is less than the rejected 9 before it", file.send(x), 0);
         due(x, 20, 1);
         due(x, 21, 4);
+        file = new TestFile(House.A, 5);
+        good(file, House.A, 1000, 0);
+        good(file, House.A, 999, 0);
+        good(file, House.A, 9999, 0);
+        Check.due("all four digits count", file.send(x), 2);
+        due(x, 21, 5);
+        Records.put(x, Records.header(House.A, 6));
+        x.put(510090005000000000L, 0);
+        x.put(800000000000000000L, 0);
+        x.put(510090005000099999L, 0);
+        x.put(800000000000000000L, 0);
+        Check.due("and no other", x.put(900020000000000000L, 0), 0);
+        due(x, 21, 6);
         Check.due("numbers begin anew in each file", good(new TestFile(House.A, 4), House.A, 1, 0).send(x), 1);
     }
 
@@ -64,7 +77,7 @@ final class BatchReasonsTest {
         good(file, House.A, 1, 1);
         good(file, House.A, 2, 2);
         good(file, House.A, 3, 3);
-        good(file, House.A, 4, 9999);
+        good(file, House.A, 4, 9000);
         Check.due("all but the first", file.send(x), 3);
         due(x, 22, 1);
     }
@@ -82,6 +95,13 @@ final class BatchReasonsTest {
                 rejected++;
                 due(x, 23, rejected);
             }
+        }
+        int[] first = {1000, 100000, 100000000, 100000000};
+        for (int index = 0; index < 4; index++) {
+            TestFile file = new TestFile(House.C, index).batch(House.A, 1, 0).entry(2, House.B, 0, 5, 1);
+            Check.due("first digit of " + index, file.wrongControl(index, first[index]).send(x), 0);
+            rejected++;
+            due(x, 23, rejected);
         }
         TestFile file = new TestFile(House.B, 1).batch(House.A, 1, 0);
         file.entry(4, House.B, 0, 5, 1).entry(2, 9999, 0, 9999999, 2).entry(2, 1634, 0, 9999999, 3).control();

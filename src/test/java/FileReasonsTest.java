@@ -50,6 +50,12 @@ final class FileReasonsTest {
         Check.due("file 9999 of B", one(House.B, 9999).send(x), 1);
         Check.due("rejected(11)", x.rejected(11), 3);
         Check.due("waiting(1, 0)", x.waiting(1, 0), 6);
+        Check.due("file 9007 of A", one(House.A, 9007).send(x), 1);
+        Check.due("header of file 7 of A with zeros behind", x.put(110090007000000000L, 0), 0);
+        Check.due("again", x.put(900000000000000000L, 0), -11);
+        x.join(0);
+        Check.due("file 0 of 0000", one(0, 0).send(x), 1);
+        Check.due("file 0 of 0000 again", one(0, 0).send(x), -11);
     }
 
     private static void controlWrong() {
@@ -63,6 +69,10 @@ final class FileReasonsTest {
                 rejected++;
                 Check.due("rejected(12)", x.rejected(12), rejected);
             }
+        }
+        int[] first = {1000, 1000, 100000, 100000000, 100000000};
+        for (int index = 0; index < 5; index++) {
+            Check.due("first digit of " + index, one(House.A, 1).sendWrong(x, index, first[index]), -12);
         }
         Check.due("waiting(1, 0)", x.waiting(1, 0), 0);
         // What is rejected for itself is counted, too; a code that is neither is in neither sum.

@@ -201,6 +201,12 @@ final class WindowTest {
         item(x, 0, 4, 2, 1, 0, 5, 1, 0, 0);
         Check.due("waiting(0, 1)", x.waiting(0, 1), 0);
         Check.due("waiting(0, 0)", x.waiting(0, 0), 0);
+        Check.due("post(0, 40)", x.post(0, 40), 0);
+        // The output after one with returns begins anew.
+        new TestFile(House.C, 2).batch(House.B, 1, 2).entry(2, House.A, House.IN_A, 7, 1).control().send(x);
+        Check.due("window(0)", x.window(0), 1);
+        item(x, 0, 0, 2, 1, House.IN_A, 7, 1, 0, 0);
+        Check.due("post(0, 40)", x.post(0, 40), 1);
     }
 
     private static void ledger(ClearingFiles x, long a, long b, long c) {

@@ -74,9 +74,10 @@ final class BanksTest {
         Check.due("a file from the fifth", new TestFile(5005, 1).send(x), 0);
     }
 
+    /** As many days as an object has calls. */
     private static void dayCounts() {
-        ClearingFiles x = House.ofThree();
-        for (int today = 1; today <= 400; today++) {
+        ClearingFiles x = new ClearingFiles();
+        for (int today = 1; today <= 512; today++) {
             Check.due("day()", x.day(), today);
         }
     }

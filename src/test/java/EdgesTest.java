@@ -13,6 +13,7 @@ final class EdgesTest {
         everyAmountEdge();
         fortyAtOnce();
         hashOfManyReturns();
+        sumsOfManyReturns();
         eachReasonOnce();
         aCreditThenItsWholeDebit();
         Check.finish();
@@ -215,6 +216,27 @@ final class EdgesTest {
         Check.due("window(0)", x.window(0), 120);
         Check.due("control(0, 0)", x.control(0, 0), 120);
         Check.due("control(0, 1)", x.control(0, 1), 120 * 9997);
+    }
+
+    /** Nor do the sums of the debits and of the credits, behind nine digits or the greatest int. */
+    private static void sumsOfManyReturns() {
+        for (int code = 2; code <= 7; code += 5) {
+            ClearingFiles x = House.ofThree();
+            for (int number = 1; number <= 11; number++) {
+                TestFile file = new TestFile(House.A, number).batch(House.A, 1, 0);
+                for (int trace = 1; trace <= 20; trace++) {
+                    file.entry(code, House.B, 1, 9999999, trace);
+                }
+                file.control().send(x);
+                x.window(1);
+                x.post(1, 40);
+            }
+            long sum = 220L * 9999999;
+            Check.due("window(0)", x.window(0), 220);
+            Check.due("debits of code " + code, x.control(0, 2), code == 7 ? sum : 0);
+            Check.due("credits of code " + code, x.control(0, 3), code == 2 ? sum : 0);
+            Check.due("ledger(0)", x.ledger(0), 0);
+        }
     }
 
     /** rejected(): one of each reason, "0 for other numbers". */
